@@ -90,19 +90,12 @@ public final class SoldWeather {
     }
 
     public int fortune(int weather) {
-        if (weather != -1 && !isWeather(weather)) {
-            return NONE;
+        int many = grown(now.fortune, now.fortunes, weather);
+        if (many >= 0) {
+            now.fortunes = many;
+            now.turn = 0;
         }
-        if (weather == -1) {
-            now.fortunes = 0;
-        } else if (now.fortunes >= MOST_FORTUNE) {
-            return FULL;
-        } else {
-            now.fortune[now.fortunes] = weather;
-            now.fortunes++;
-        }
-        now.turn = 0;
-        return now.fortunes;
+        return many;
     }
 
     public int person(int kind, int v, int purse) {
@@ -118,9 +111,6 @@ public final class SoldWeather {
         }
         now.people[number] = ofKind(kind, number, v);
         now.purses[number] = purse;
-        for (int w = 0; w < WEATHERS; w++) {
-            now.rows[number * WEATHERS + w] = 0;
-        }
         now.size++;
         return number;
     }
@@ -301,19 +291,11 @@ public final class SoldWeather {
     // ---- a valley beside, the poor, books
 
     public int beside(int weather) {
-        if (weather == -1) {
-            now.besides = 0;
-            return 0;
+        int many = grown(now.beside, now.besides, weather);
+        if (many >= 0) {
+            now.besides = many;
         }
-        if (!isWeather(weather)) {
-            return NONE;
-        }
-        if (now.besides >= MOST_BESIDE) {
-            return FULL;
-        }
-        now.beside[now.besides] = weather;
-        now.besides++;
-        return now.besides;
+        return many;
     }
 
     public int spill(int m, int n) {
@@ -370,19 +352,11 @@ public final class SoldWeather {
     }
 
     public int book(int weather) {
-        if (weather == -1) {
-            now.booked = 0;
-            return 0;
+        int many = grown(now.book, now.booked, weather);
+        if (many >= 0) {
+            now.booked = many;
         }
-        if (!isWeather(weather)) {
-            return NONE;
-        }
-        if (now.booked >= MOST_BOOK) {
-            return FULL;
-        }
-        now.book[now.booked] = weather;
-        now.booked++;
-        return now.booked;
+        return many;
     }
 
     public int looked() {
@@ -479,6 +453,21 @@ public final class SoldWeather {
 
     private static boolean isRun(int n) {
         return n >= 1 && n <= MOST_RUN;
+    }
+
+    /** How many a row of WEATHERS told by hand has then, or why it stays as it is. */
+    private static int grown(int[] row, int many, int weather) {
+        if (weather == -1) {
+            return 0;
+        }
+        if (!isWeather(weather)) {
+            return NONE;
+        }
+        if (many < 0 || many >= row.length) {
+            return FULL;
+        }
+        row[many] = weather;
+        return many + 1;
     }
 
     private static Bidder ofKind(int kind, int number, int v) {

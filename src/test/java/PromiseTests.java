@@ -144,6 +144,14 @@ public final class PromiseTests {
         due("5 open, again", read(new SoldWeather(), "worth 5 !!!!!w=1&!!!!!w=1|!(!(!w=1))"), 0);
         due("10 clauses", read(new SoldWeather(),
             "gift 1;gift 1;gift 1;gift 1;gift 1;gift 1;gift 1;gift 1;gift 1;rule 2"), 0);
+        SoldWeather ten = in("worth 1 w=1" + ";worth 1 w=1".repeat(9));
+        ten.person(0, 0, 0);
+        due("10 of worth", ten.of(0, 21), 10);
+        SoldWeather wide = in("worth 1 !w=0" + "&w=1".repeat(27));
+        due("120 signs", wide.person(0, 0, 0), 0);
+        due("120 signs hold", wide.of(0, 21), 1);
+        due("120 signs do not hold", wide.of(0, 20), 0);
+        fault("worth 1 w=1" + "&w=1".repeat(27) + "|", 120);
         SoldWeather x = new SoldWeather();
         for (int i = 0; i < 5; i++) {
             due("valley " + i, read(x, "gift 1" + i), i);
@@ -771,10 +779,14 @@ public final class PromiseTests {
         SoldWeather x = new SoldWeather();
         x.image();
         x.person(6, 0, 99);
-        x.row(0, 1, 44);
+        for (int w = 0; w < 4; w++) {
+            x.row(0, w, 44);
+        }
         x.undo();
         x.person(6, 0, 99);
-        due("a new one has told nothing", x.row(0, 1, 5), 0);
+        for (int w = 0; w < 4; w++) {
+            due("a new one has told nothing", x.row(0, w, 5), 0);
+        }
     }
 
     private static void count() {
