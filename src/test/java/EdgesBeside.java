@@ -125,6 +125,11 @@ public final class EdgesBeside extends Edges {
         due(all.poor(3, 0), 255 - 8);
         due(all.poor(4, 0), 255 - 8 - 128);
         due(all.poor(40, 0), 255 - 8 - 128);
+        // One DAY is enough, whatever the others bring.
+        Watched once = people(in("harm 5 w=0;worth 1 w=1"), 1);
+        due(once.poor(1, 0), 1);
+        due(once.poor(2, 0), 0);
+        due(once.poor(5, 0), 0);
         due(people(fresh(), 8).poor(40, 0), 255);
         due(people(fresh(), 1).poor(1, 0), 1);
         due(fresh().poor(1, 0), 0);

@@ -333,6 +333,15 @@ public final class EdgesOfActs extends Edges {
         due(x.told(4), 2);
         due(x.told(3), 1);
         due(x.count(2), 4);
+        x.fortune(-1);
+        for (int i = 0; i < 5; i++) {
+            x.fortune(i == 2 ? 1 : 3);
+        }
+        x.undo();
+        due(x.count(2), 4);
+        for (int i = 2; i < 8; i++) {
+            due(x.go(), i % 4);
+        }
     }
 
     private static void count() {

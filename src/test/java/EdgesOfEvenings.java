@@ -64,6 +64,11 @@ public final class EdgesOfEvenings extends Edges {
         due(people(in("worth 6 w=3&p=0;worth 5 w=1&p=1"), BIDDER, 9, 9).go(), 3);
         due(people(in("worth 5 w=3&p<2;worth 9 w=1&p=2"), BIDDER, 9, 9, 9).go(), 3);
         due(people(in("worth 1 w=3"), BIDDER, 1).go(), 3);
+        Watched again = people(in("worth 5 w<2"), BIDDER, 99);
+        for (int i = 0; i < 3; i++) {
+            due(again.sold(0), 0);
+            due(again.go(), 0);
+        }
     }
 
     private static void purses() {
@@ -145,6 +150,20 @@ public final class EdgesOfEvenings extends Edges {
         // 9 less 1 by 2 are 4: the one pays 1, the other just 0.
         due(four.sold(10), 1);
         due(four.sold(11), 0);
+        for (int other = 0; other < 4; other++) {
+            if (other != 1) {
+                Watched y = people(in("worth 7 w=1&p<2;worth 4 w=" + other + "&p=2;rule 2"), BIDDER, 99, 99, 99);
+                // 14 less 4 by 2.
+                due(y.sold(10), 2);
+                due(y.sold(12), 0);
+            }
+        }
+        Watched eight = people(in("worth 9 w=0;rule 2"), BIDDER, 9, 9, 9, 9, 9, 9, 9, 2);
+        // 65 by 8, cut, are 8.
+        due(eight.sold(1), 65);
+        due(eight.sold(10), 1);
+        due(eight.sold(17), 0);
+        due(eight.run(1, 2), 7);
         Watched alone = people(in("worth 7 w=3;rule 2"), BIDDER, 99);
         due(alone.sold(10), 0);
         Watched tied = people(in("worth 5 w=1&p=0;worth 5 w=2&p=1;rule 2"), BIDDER, 99, 99);
@@ -426,6 +445,11 @@ public final class EdgesOfEvenings extends Edges {
         due(pair(12, 10, 10, 6, 6).leagues(1), 12);
         due(pair(12, 10, 10, 6, 5).leagues(1), -5);
         due(pair(12, 10, 10, 0, 99).leagues(1), -5);
+        for (int w = 0; w < 2; w++) {
+            Watched both = people(in("worth 5 w=2&p=0;worth 9 w=" + w + "&p>0;rule 1"), BIDDER, 99);
+            due(people(both, TOLD, 99, 99).leagues(1), 1);
+            due(both.leagues(0), 3);
+        }
         // Two whom WEATHER 1 harms cannot bid less than nothing; with the one who buys it they can.
         Watched x = people(in("worth 5 w=1&p=0;harm 10 w=1&p>0"), BIDDER, 9, 9, 9);
         due(x.leagues(0), 2);
@@ -441,6 +465,48 @@ public final class EdgesOfEvenings extends Edges {
         // Here both bid 8, as they would together.
         Watched inOne = people(in("worth 8 w=1&p=0;worth 9 w=1&p=1"), LEAGUE, 99, 99);
         due(inOne.leagues(0), 0);
+    }
+
+    /** Worth hangs on the DAY, on the WEATHER ahead and on who it is; purses run empty and fill again. */
+    private static Watched busy() {
+        Watched x = in("worth 20 w=1&y=0;worth 30 w=2&p>1;harm 9 w=1&p=3;worth 9 d=1|y=2;harm 40 p=4&y=2;rule 1;gift 4");
+        int[][] people = {{0, 0, 50}, {1, 1, 40}, {2, 5, 60}, {3, 5, 30}, {4, 2, 21}, {5, 2, 70}, {6, 0, 80}};
+        for (int[] one : people) {
+            x.person(one[0], one[1], one[2]);
+        }
+        x.row(6, 1, 15);
+        for (int weather = 0; weather < 4; weather++) {
+            x.beside(weather);
+            x.book(weather == 0 ? 2 : 1);
+        }
+        x.go();
+        return x;
+    }
+
+    private interface Question {
+        long ask(Watched x);
+    }
+
+    private static void askedInAnyOrder() {
+        sentence(9, "all that follows is asked, goes on from how all is.");
+        Question[] all = {x -> x.told(3), x -> x.told(4), x -> x.of(0, 11), x -> x.of(3, 12), x -> x.of(1, 22),
+            x -> x.of(0, 21), x -> x.of(4, 20), x -> x.of(2, 22),
+            x -> x.of(4, 2), x -> x.sold(0), x -> x.sold(1), x -> x.sold(12), x -> x.run(1, 0), x -> x.run(40, 1),
+            x -> x.run(7, 2), x -> x.run(9, 10), x -> x.best(8, -1), x -> x.best(3, -1), x -> x.best(1, 0),
+            x -> x.truly(0, 0), x -> x.truly(6, 2), x -> x.harm(2), x -> x.leagues(0), x -> x.leagues(1),
+            x -> x.spill(40, 9), x -> x.spill(2, 9), x -> x.poor(40, 0), x -> x.poor(3, 1), x -> x.worse(40),
+            x -> x.worse(2), x -> x.looked()};
+        long[] first = new long[all.length];
+        for (int i = 0; i < all.length; i++) {
+            first[i] = all[i].ask(busy());
+        }
+        for (Question before : all) {
+            Watched x = busy();
+            for (int i = 0; i < all.length; i++) {
+                before.ask(x);
+                due(all[i].ask(x), first[i]);
+            }
+        }
     }
 
     public static void main(String[] args) {
@@ -461,6 +527,7 @@ public final class EdgesOfEvenings extends Edges {
         harm();
         leagues();
         halves();
+        askedInAnyOrder();
         end(9, 15);
     }
 }

@@ -238,6 +238,12 @@ public final class EdgesOfPeople extends Edges {
         least.person(AHEAD, 4, 3);
         bids(least, 1, 1, 1, 1, 1);
 
+        for (int w = 0; w < 4; w++) {
+            Watched one = in("worth 40 d=1&w=" + w);
+            one.person(AHEAD, 5, 999);
+            bids(one, 0, 20, 20, 20, 20);
+        }
+
         sentence(8, "the WEATHER bid for being ahead of that, by 10 (cut toward 0).");
         Watched z = in("worth 40 d=1&y=3&w=2;worth 99 d=1&y=0&w=3&p=1;worth 1 d=0&w=1");
         z.person(AHEAD, 5, 999);
@@ -301,6 +307,22 @@ public final class EdgesOfPeople extends Edges {
         bids(z, 0, 0, 0, 10, 0);
     }
 
+    private static void noOtherWeathers() {
+        sentence(8, "for the WEATHER for which that is most");
+        Watched x = in("worth 1 w=2;worth 50 w>3;worth 50 w<0;worth 50 y>3;worth 50 y<0");
+        for (int kind = 0; kind < 7; kind++) {
+            x.person(kind, 0, 999);
+            int bid = kind == TOLD ? 0 : 1;
+            bids(x, kind, 0, 0, bid, 0);
+        }
+        x.person(AHEAD, 9, 999);
+        // 9 times 1 by 10 is nothing.
+        bids(x, 7, 0, 0, 1, 0);
+        due(x.best(1, -1), 8);
+        due(x.best(8, -1), 64);
+        due(x.best(8, 7), 2);
+    }
+
     private static void told() {
         sentence(8, "TOLD: what its ROW tells for the WEATHER (0 without).");
         Watched x = in("worth 9 w<9");
@@ -334,6 +356,7 @@ public final class EdgesOfPeople extends Edges {
         aheadOfLastDays();
         saving();
         sharing();
+        noOtherWeathers();
         told();
         end(6, 8);
     }

@@ -266,9 +266,13 @@ public final class EdgesOfValleys extends Edges {
             for (String n : new String[] {"100", "990", "999"}) {
                 fault(heads[i] + n + tails[i], place + 2);
             }
-            fault(heads[i] + "-1" + tails[i], place);
-            fault(heads[i] + "+1" + tails[i], place);
-            fault(heads[i] + "x" + tails[i], place);
+            // The signs beside the digits are none.
+            for (String n : new String[] {"1/", "1:", "9x"}) {
+                fault(heads[i] + n + tails[i], place + 1);
+            }
+            for (String n : new String[] {"/", ":", "-1", "+1", "x"}) {
+                fault(heads[i] + n + tails[i], place);
+            }
         }
         for (int n : new int[] {0, 9, 10, 99}) {
             Watched x = in("worth " + n + " w=0;harm " + n + " w=1;gift " + n);
@@ -365,6 +369,16 @@ public final class EdgesOfValleys extends Edges {
         z.person(0, 0, 0);
         due(z.of(0, 21), 9);
         due(z.of(0, 22), 0);
+    }
+
+    private static void longestAgain() {
+        sentence(3, "the newest one holds");
+        Watched x = fresh();
+        x.person(0, 0, 0);
+        for (int i = 0; i < 3; i++) {
+            due(read(x, LONGEST), i);
+            due(x.of(0, 21), 1);
+        }
     }
 
     private static void fiveValleys() {
@@ -481,8 +495,9 @@ public final class EdgesOfValleys extends Edges {
         }
         Watched k = in(around('k', 5));
         for (int i = 0; i < 7; i++) {
-            k.person(i, 0, 0);
-            due(k.of(i, 20), i < 5 ? 1 : i == 5 ? 2 : 4);
+            int kind = 6 - i;
+            k.person(kind, 0, 0);
+            due(k.of(i, 20), kind < 5 ? 1 : kind == 5 ? 2 : 4);
         }
         Watched wide = in("worth 1 w<99;worth 2 w>99;worth 4 w=99;worth 8 w<0;worth 16 w>0;worth 32 w=0");
         wide.person(0, 0, 0);
@@ -535,6 +550,8 @@ public final class EdgesOfValleys extends Edges {
         holdsIs("w=0|w=1|w=2|w=3", 15);
         holdsIs("w<3&w>0&w<2", 2);
         holdsIs("w<3&w>0|w=3", 14);
+        holdsIs("w=1&!w<0", 2);
+        holdsIs("!w<0&w=1|w<0", 2);
         holdsIs("(((((w=0)|w=3)&w>0)|w=1)&w<9)", 10);
     }
 
@@ -642,6 +659,10 @@ public final class EdgesOfValleys extends Edges {
         due(y.worse(40), 0);
         due(y.fortune(1), 1);
         due(y.told(4), 1);
+        due(y.fortune(-1), 0);
+        due(y.told(4), 0);
+        due(y.run(1, 0), 0);
+        due(y.go(), 0);
     }
 
     public static void main(String[] args) {
@@ -657,6 +678,7 @@ public final class EdgesOfValleys extends Edges {
         clauses();
         open();
         longest();
+        longestAgain();
         fiveValleys();
         faultChangesNothingElse();
         ruleAndGift();
